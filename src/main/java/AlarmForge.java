@@ -1453,21 +1453,40 @@ public final class AlarmForge {
                 state.dead = true;
                 return;
             }
-            Value x = stack[0];
-            Value y = stack[1];
-            if (taken) {
-                compare(s.compare, x, y);
-            } else if (s.compare == EQUAL || s.compare == UNEQUAL) {
-                compare(s.compare == EQUAL ? UNEQUAL : EQUAL, x, y);
-            } else {
-                compare(s.compare == BELOW ? AT_MOST : BELOW, y, x);
-            }
+            boolean turned = !taken && (s.compare == BELOW || s.compare == AT_MOST);
+            Value x = stack[turned ? 1 : 0];
+            Value y = stack[turned ? 0 : 1];
+            compare(taken ? s.compare : contraryOf(s.compare), x, y);
             if (x.nothing || y.nothing) {
                 state.dead = true;
-                return;
+            } else if (turned) {
+                learn(s.middle, s.end, x, state);
+                learn(s.start, s.middle, y, state);
+            } else {
+                learn(s.start, s.middle, x, state);
+                learn(s.middle, s.end, y, state);
             }
-            learn(s.start, s.middle, x, state);
-            learn(s.middle, s.end, y, state);
+        }
+
+        /** What a comparison becomes for not; < and <= with their sides turned round. */
+        private static int contraryOf(int kind) {
+            switch (kind) {
+                case EQUAL:
+                    return UNEQUAL;
+                case UNEQUAL:
+                    return EQUAL;
+                case BELOW:
+                    return AT_MOST;
+                default:
+                    return BELOW;
+            }
+        }
+
+        /** If the steps are a VARIABLE alone, it has this value from now on. */
+        private void learn(int from, int to, Value value, State state) {
+            if (to == from + 1 && program.kinds[from] == VARIABLE) {
+                state.values[program.numbers[from]].copy(value);
+            }
         }
 
         private void compare(int kind, Value x, Value y) {
@@ -1505,13 +1524,6 @@ public final class AlarmForge {
             long oldLo = x.lo;
             x.lowerTo(y.hi - distance);
             y.raiseTo(oldLo + distance);
-        }
-
-        /** If the steps are a VARIABLE alone, it has this value from now on. */
-        private void learn(int from, int to, Value value, State state) {
-            if (to == from + 1 && program.kinds[from] == VARIABLE) {
-                state.values[program.numbers[from]].copy(value);
-            }
         }
 
         /** Leaves the VALUE of an EXPR on the stack at base; false if it is NOTHING. */
