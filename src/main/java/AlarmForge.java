@@ -58,13 +58,10 @@ public final class AlarmForge {
     // Beyond PATIENCE all is as wide as can be but for six flags, so no while comes near this.
     private static final int PASSES_MOST = 100;
 
-    private final char[] characters;
-    private int length;
-    private final int[] inputs;
-    private int inputCount;
     private int unroll;
     private int narrow;
     private final Parser parser;
+    private final Reader reader;
     private Program program;
     private Program spare;
     private boolean parsed;
@@ -72,11 +69,10 @@ public final class AlarmForge {
     private final Analyser analyser;
 
     public AlarmForge() {
-        characters = new char[TEXT_MOST];
-        inputs = new int[INPUTS_MOST];
         unroll = 1;
         narrow = 1;
-        parser = new Parser(characters);
+        parser = new Parser();
+        reader = parser.reader;
         program = new Program();
         spare = new Program();
         runner = new Runner();
@@ -92,17 +88,16 @@ public final class AlarmForge {
             }
             more += c == 0 ? 0 : 1;
         }
-        if (length + more > TEXT_MOST) {
+        if (reader.length + more > TEXT_MOST) {
             throw new IllegalStateException();
         }
         for (int shift = 56; shift >= 0; shift -= 8) {
             int c = byteAt(w, shift);
-            if (c != 0 && length < TEXT_MOST) {
-                characters[length] = (char) c;
-                length++;
+            if (c != 0) {
+                reader.append((char) c);
             }
         }
-        return length;
+        return reader.length;
     }
 
     private static int byteAt(long w, int shift) {
@@ -114,13 +109,13 @@ public final class AlarmForge {
     }
 
     public int clear() {
-        int had = length;
-        length = 0;
+        int had = reader.length;
+        reader.length = 0;
         return had;
     }
 
     public int parse() throws IllegalArgumentException {
-        parser.readProgram(spare, length);
+        parser.readProgram(spare);
         Program old = program;
         program = spare;
         spare = old;
@@ -148,17 +143,16 @@ public final class AlarmForge {
     }
 
     public int input(int v) throws IllegalStateException {
-        if (inputCount >= INPUTS_MOST) {
+        if (runner.inputCount >= INPUTS_MOST) {
             throw new IllegalStateException();
         }
-        inputs[inputCount] = v;
-        inputCount++;
-        return inputCount;
+        runner.addInput(v);
+        return runner.inputCount;
     }
 
     public int forget() {
-        int had = inputCount;
-        inputCount = 0;
+        int had = runner.inputCount;
+        runner.inputCount = 0;
         return had;
     }
 
@@ -170,8 +164,7 @@ public final class AlarmForge {
         if (!parsed) {
             throw new IllegalStateException();
         }
-        runner.prepare(limit, inputs, inputCount);
-        return runner.doProgram(program) ? 0 : STOPPED;
+        return runner.doProgram(program, limit) ? 0 : STOPPED;
     }
 
     public int ran(int what) throws IllegalArgumentException {
@@ -238,9 +231,9 @@ public final class AlarmForge {
     public int count(int what) throws IllegalArgumentException {
         switch (what) {
             case 0:
-                return length;
+                return reader.length;
             case 1:
-                return inputCount;
+                return runner.inputCount;
             case 2:
                 return parsed ? program.statementCount : 0;
             case 3:
@@ -256,7 +249,7 @@ public final class AlarmForge {
         }
     }
 
-    /** Makes rows of the TOKENS of a text, up to its end or the first character that is in none. */
+    /** The TEXT, and rows of its TOKENS, up to its end or the first character that is in none. */
     private static final class Reader {
         private final char[] characters;
         private final int[] kinds;
@@ -268,15 +261,21 @@ public final class AlarmForge {
         private int place;
         private int number;
 
-        Reader(char[] characters) {
-            this.characters = characters;
+        Reader() {
+            characters = new char[TEXT_MOST];
             kinds = new int[TEXT_MOST + 1];
             places = new int[TEXT_MOST + 1];
             numbers = new int[TEXT_MOST + 1];
         }
 
-        void readAll(int newLength) {
-            length = newLength;
+        void append(char c) {
+            if (length < TEXT_MOST) {
+                characters[length] = c;
+                length++;
+            }
+        }
+
+        void readAll() {
             at = 0;
             kind = NUMERAL;
             for (int i = 0; i <= TEXT_MOST && kind != END && kind != NO_TOKEN; i++) {
@@ -476,16 +475,16 @@ public final class AlarmForge {
         private Program program;
         private int fault;
 
-        Parser(char[] characters) {
-            reader = new Reader(characters);
+        Parser() {
+            reader = new Reader();
             fault = NO_FAULT;
         }
 
-        void readProgram(Program into, int length) {
+        void readProgram(Program into) {
             program = into;
             program.empty();
             fault = NO_FAULT;
-            reader.readAll(length);
+            reader.readAll();
             at = 0;
             program.first = readStatements(END, 0);
         }
@@ -529,7 +528,7 @@ public final class AlarmForge {
 
         private Statement readStatement(int depth) {
             int kind = kindHere();
-            need(kind >= VARIABLE && kind <= ASSERT && kind != ELSE && !program.isFull());
+            need(beginsStatement(kind) && !program.isFull());
             Statement statement = program.newStatement(kind, reader.places[at]);
             statement.target = reader.numbers[at];
             advance();
@@ -542,6 +541,10 @@ public final class AlarmForge {
                 readRest(statement, depth);
             }
             return statement;
+        }
+
+        private static boolean beginsStatement(int kind) {
+            return kind == VARIABLE || kind == ARRAY || kind == IF || kind == WHILE || kind == ASSERT;
         }
 
         private void readAssignment(Statement statement) {
@@ -634,12 +637,16 @@ public final class AlarmForge {
             return kind == '*' || kind == '/' || kind == '%';
         }
 
+        private static boolean beginsFactor(int kind) {
+            return kind == NUMERAL || kind == VARIABLE || kind == ARRAY || kind == '-' || kind == '(';
+        }
+
         private int readFactor(int depth) {
             need(depth <= FACTOR_DEEPEST);
             int kind = kindHere();
             int place = reader.places[at];
             int number = reader.numbers[at];
-            need(kind >= NUMERAL && kind <= ARRAY || kind == '-' || kind == '(');
+            need(beginsFactor(kind));
             advance();
             if (kind == '(') {
                 int height = readExpr(depth + 1);
@@ -666,10 +673,10 @@ public final class AlarmForge {
         private final boolean[] unset;
         private final int[] cells;
         private final int[] stack;
+        private final int[] inputs;
+        private int inputCount;
         private Program program;
         private int limit;
-        private int[] inputs;
-        private int inputCount;
         private int begun;
         private int taken;
         private int error;
@@ -682,9 +689,25 @@ public final class AlarmForge {
             }
             cells = new int[CELLS];
             stack = new int[STACK_MOST];
+            inputs = new int[INPUTS_MOST];
         }
 
-        void prepare(int newLimit, int[] newInputs, int newInputCount) {
+        void addInput(int v) {
+            if (inputCount < INPUTS_MOST) {
+                inputs[inputCount] = v;
+                inputCount++;
+            }
+        }
+
+        /** Whether it came to the end and was not STOPPED. */
+        boolean doProgram(Program newProgram, int newLimit) {
+            program = newProgram;
+            limit = newLimit;
+            begin();
+            return doStatements(program.first, 0);
+        }
+
+        private void begin() {
             for (int i = 0; i < VARIABLES; i++) {
                 variables[i] = 0;
                 unset[i] = true;
@@ -692,18 +715,9 @@ public final class AlarmForge {
             for (int i = 0; i < CELLS; i++) {
                 cells[i] = 0;
             }
-            limit = newLimit;
-            inputs = newInputs;
-            inputCount = newInputCount;
             begun = 0;
             taken = 0;
             error = 0;
-        }
-
-        /** Whether it came to the end and was not STOPPED. */
-        boolean doProgram(Program newProgram) {
-            program = newProgram;
-            return doStatements(program.first, 0);
         }
 
         private boolean doStatements(Statement first, int depth) {
