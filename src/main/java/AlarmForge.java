@@ -398,14 +398,10 @@ public final class AlarmForge {
         private Statement other;
         private Statement next;
 
-        void begin(int newKind, int newPlace) {
+        void begin(int newKind, int newPlace, int newTarget) {
             kind = newKind;
             place = newPlace;
-            target = 0;
-            start = 0;
-            middle = 0;
-            end = 0;
-            compare = 0;
+            target = newTarget;
             body = null;
             other = null;
             next = null;
@@ -435,17 +431,15 @@ public final class AlarmForge {
         void empty() {
             statementCount = 0;
             stepCount = 0;
-            first = null;
         }
 
         boolean isFull() {
             return statementCount >= STATEMENTS_MOST;
         }
 
-        Statement newStatement(int kind, int place) {
+        Statement newStatement() {
             Statement statement = statements[statementCount];
             statementCount++;
-            statement.begin(kind, place);
             return statement;
         }
 
@@ -529,8 +523,8 @@ public final class AlarmForge {
         private Statement readStatement(int depth) {
             int kind = kindHere();
             need(beginsStatement(kind) && !program.isFull());
-            Statement statement = program.newStatement(kind, reader.places[at]);
-            statement.target = reader.numbers[at];
+            Statement statement = program.newStatement();
+            statement.begin(kind, reader.places[at], reader.numbers[at]);
             advance();
             if (kind == VARIABLE) {
                 readAssignment(statement);

@@ -43,6 +43,10 @@ public final class AnalyseTest {
         AlarmForge forge = Checks.analysed("a=in;if(a<0){b=1;}c=b;");
         Checks.due("may still be unset", () -> forge.left(1, 4), 1);
         Checks.due("set by what is read", () -> forge.left(2, 4), 0);
+        Checks.warns("c=in;if(c<0){a=1;}b=a;", "1@20");
+        Checks.warns("c=in;if(c<0){}else{f=1;}b=f;", "1@26");
+        Checks.warns("c=in;while(c<0){a=1;c=in;}b=a;", "1@28");
+        Checks.warns("c=in;a=1;if(c<0){c=a;}b=a;", "");
         Checks.warns("a=in;if(a<0){b=1;}b=2;c=b;", "");
         Checks.warns("a=in;if(a<0){b=1;}else{b=2;}c=b;", "");
         Checks.warns("a=in;if(a<0){b=1;}assert(b==1);c=b;", "1@25 1@33");
@@ -83,6 +87,8 @@ public final class AnalyseTest {
         Checks.warns("A[4]=1;a=b;", "2@0");
         Checks.warns("A[4]=b;", "2@0 1@5");
         Checks.warns("A[b]=c;", "1@2");
+        Checks.leaves("A[b]=c;", "A0", "dead");
+        Checks.warns("A[b]=1;c=d;", "1@2");
         Checks.warns("A[0]=1/0;a=b;", "4@6");
         Checks.leaves("A[0]=1/0;", "A0", "dead");
     }
@@ -140,6 +146,10 @@ public final class AnalyseTest {
         Checks.due("of the latest going through", () -> forge.warning(0), 1024 + 2);
         Checks.due("none now", forge::analyse, 0);
         Checks.due("gone", () -> forge.warning(0), "IndexOutOfBounds");
+        AlarmForge first = Checks.parsed("A[4]=1;");
+        Checks.due("at the first place", first::analyse, 1);
+        Checks.due("and again", first::analyse, 1);
+        Checks.due("as before", () -> first.warning(0), 2 * 1024);
         forge.input(5);
         Checks.due("inputs do not matter", forge::analyse, 0);
     }

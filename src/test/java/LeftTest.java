@@ -73,6 +73,12 @@ public final class LeftTest {
         forge.analyse();
         Checks.due("gone through", () -> forge.left(0, 0), 4);
         forge.clear();
+        Checks.write(forge, "b=in;");
+        forge.parse();
+        forge.analyse();
+        Checks.due("nothing of the old one", () -> forge.left(0, 0), "UnsupportedOperation");
+        Checks.due("unset again", () -> forge.left(0, 4), 1);
+        forge.clear();
         Checks.write(forge, "b=1/0;");
         forge.parse();
         forge.analyse();

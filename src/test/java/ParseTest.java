@@ -9,6 +9,7 @@ public final class ParseTest {
         heights();
         fullTexts();
         whatStays();
+        manyOneBehindTheOther();
         Checks.end();
     }
 
@@ -48,6 +49,12 @@ public final class ParseTest {
         Checks.parses("g=1;", "at 0");
         Checks.parses("C[0]=1;", "at 0");
         Checks.parses("IF(a<1){}", "at 0");
+        Checks.parses("az=1;", "at 0");
+        Checks.parses("aZ=1;", "at 0");
+        Checks.parses("xf(a<1){}", "at 0");
+        Checks.parses("a=on;", "at 2");
+        Checks.parses("a=-x1;", "at 3");
+        Checks.parses("a=(C1);", "at 3");
         Checks.parses("if(a<1){}else1", "at 13");
     }
 
@@ -127,6 +134,10 @@ public final class ParseTest {
         Checks.parses("A[" + "(".repeat(11) + "1" + ")".repeat(11) + "]=1;", "at 13");
         Checks.parses("a=-(-(-(-(-(1+-2*3)))));", "at 15");
         Checks.parses("a=-(-(-(-(-(1+2*3)))));", "1");
+        Checks.parses("A[0]=" + "-".repeat(10) + "1;", "1");
+        Checks.parses("A[0]=" + "-".repeat(11) + "1;", "at 16");
+        Checks.parses("if(" + "-".repeat(10) + "1<" + "-".repeat(10) + "1){}", "1");
+        Checks.parses("if(1<" + "-".repeat(11) + "1){}", "at 16");
         Checks.parses("if(" + "-".repeat(11) + "1<2){}", "at 14");
     }
 
@@ -183,5 +194,34 @@ public final class ParseTest {
         Checks.due("an empty one", forge::parse, 0);
         Checks.due("begins nothing", () -> forge.run(0), 0);
         Checks.due("its variables", () -> forge.ran(30), 1);
+    }
+
+    private static void put(AlarmForge forge, String text) {
+        forge.clear();
+        Checks.write(forge, text);
+        Checks.same("parse of " + text, Checks.answer(forge::parse).startsWith("I"), false);
+    }
+
+    private static void manyOneBehindTheOther() {
+        AlarmForge forge = new AlarmForge();
+        for (int n = 0; n < 3; n++) {
+            put(forge, "if(1<0){a=1;}else{b=2;}c=3;d=4;");
+        }
+        for (int n = 0; n < 3; n++) {
+            put(forge, "if(1<0){a=1;}");
+            Checks.due("no else", () -> forge.run(9), 0);
+            Checks.due("one statement alone", () -> forge.ran(1), 1);
+        }
+        for (int n = 0; n < 3; n++) {
+            put(forge, "if(0<1){}");
+            forge.run(9);
+            Checks.due("nothing in it", () -> forge.ran(1), 1);
+        }
+        String longest = "a=" + "1+1*(".repeat(10) + "1+1*1" + ")".repeat(10) + ";";
+        for (int n = 0; n < 12; n++) {
+            put(forge, longest);
+            forge.run(9);
+            Checks.due("its value", () -> forge.ran(10), 12);
+        }
     }
 }

@@ -64,6 +64,7 @@ public final class RangesTest {
         Checks.leaves("a=in;b=-a;", "b", "-2147483647..2147483647 1 0");
         Checks.warns("a=in;b=-a;", "3@7");
         Checks.leaves("a=999999999+999999999+999999999;", "a", "dead");
+        Checks.leaves("a=-999999999-999999999-999999999;", "a", "dead");
         Checks.warns("a=999999999+999999999+999999999;b=c;", "3@21");
         Checks.leaves("a=" + LEAST + ";", "a", "-2147483648..-2147483648 0 -2147483648");
         Checks.warns("a=" + LEAST + ";", "");
@@ -74,6 +75,10 @@ public final class RangesTest {
     private static void products() {
         Checks.leaves(rests('a', 4, 6, 0) + rests('b', 2, 4, 3) + "c=a*b;", "c", "-264..264 6 0");
         Checks.leaves(rests('a', 2, 4, 1) + rests('b', 2, 4, 3) + "c=a*b;", "c", "-77..99 4 3");
+        Checks.leaves(range('a', 0, 9) + range('b', -5, 2) + "c=a*b;", "c", "-45..18 1 0");
+        Checks.leaves(range('a', -5, 2) + range('b', 0, 9) + "c=a*b;", "c", "-45..18 1 0");
+        Checks.leaves(range('a', -9, -3) + range('b', -5, 2) + "c=a*b;", "c", "-18..45 1 0");
+        Checks.leaves(range('a', 2, 3) + range('b', 4, 5) + "c=a*b;", "c", "8..15 1 0");
         Checks.leaves("a=in;b=a*0;", "b", "0..0 0 0");
         Checks.leaves("a=in;b=a*a;", "b", ALL);
         Checks.warns("a=in;b=a*a;", "3@8");
@@ -137,6 +142,8 @@ public final class RangesTest {
         Checks.leaves(two + "assert(b==a);", "b", "-24..24 6 0");
         Checks.leaves(rests('a', 4, 6, 0) + rests('b', 8, 4, 1) + "assert(a==b);", "a", "dead");
         Checks.leaves(rests('a', 4, 6, 0) + rests('b', 8, 4, 2) + "assert(a==b);", "b", "-24..24 6 0");
+        Checks.leaves("a=in;" + rests('b', 4, 4, 0) + "assert(a==b);", "a", "-16..16 4 0");
+        Checks.leaves("a=in;" + rests('b', 4, 4, 0) + "assert(b==a);", "a", "-16..16 4 0");
         Checks.leaves(rests('a', 4, 6, 0) + "assert(a==12);", "a", "12..12 0 12");
         Checks.leaves(rests('a', 4, 6, 0) + "assert(-6==a);", "a", "-6..-6 0 -6");
         Checks.leaves(rests('a', 4, 6, 0) + "assert(a==13);", "a", "dead");

@@ -6,6 +6,7 @@ public final class RunTest {
         orderOfErrors();
         arithmetic();
         conds();
+        fullConds();
         limits();
         whatRanTells();
         whatFailedCallsLeave();
@@ -109,6 +110,17 @@ public final class RunTest {
         }
     }
 
+    private static void fullConds() {
+        String full = "1+1*(".repeat(10) + "1+1*1" + ")".repeat(10);
+        Checks.runs("assert(12==" + full + ");", "0");
+        Checks.runs("assert(13==" + full + ");", "UnsupportedOperation 5@0");
+        Checks.runs("assert(" + full + "<=" + full + ");", "0");
+        Checks.warns("assert(12==" + full + ");", "");
+        Checks.warns("assert(13==" + full + ");", "5@0");
+        Checks.runs("A[0]=" + full + ";assert(A[0]==12);", "0");
+        Checks.warns("A[0]=" + full + ";assert(A[0]==12);", "");
+    }
+
     private static void limits() {
         AlarmForge forge = Checks.parsed("a=0;while(a<2){a=a+1;}b=1;");
         String[] due = {"-5 0 0", "-5 1 0", "-5 2 0", "-5 3 1", "-5 4 1", "-5 5 2", "-5 6 2", "0 7 2", "0 7 2"};
@@ -124,6 +136,13 @@ public final class RunTest {
         AlarmForge nested = Checks.parsed("a=0;while(a<3){b=0;while(b<2){b=b+1;}a=a+1;}");
         Checks.due("nested", () -> nested.run(500), 0);
         Checks.due("nested begun", () -> nested.ran(1), 26);
+        AlarmForge deep = Checks.parsed("a=0;while(a<2){if(a<5){b=0;while(b<2){A[b]=a;b=b+1;}}a=a+1;}");
+        Checks.due("three deep", () -> deep.run(500), 0);
+        Checks.due("three deep begun", () -> deep.ran(1), 24);
+        Checks.due("three deep stored", () -> deep.ran(21), 1);
+        AlarmForge deepIf = Checks.parsed("if(0==0){if(0==0){if(1==0){}else{a=7;}}}");
+        Checks.due("three ifs", () -> deepIf.run(500), 0);
+        Checks.due("its innermost", () -> deepIf.ran(10), 7);
         AlarmForge late = Checks.parsed("a=1;b=1/0;");
         Checks.due("stopped before the error", () -> late.run(1), -5);
         Checks.due("the error", () -> late.run(2), "Arithmetic");
@@ -152,6 +171,8 @@ public final class RunTest {
         Checks.due("a new one begins anew: error", () -> full.ran(0), 0);
         Checks.due("variable", () -> full.ran(15), 0);
         Checks.due("cell", () -> full.ran(23), 0);
+        Checks.due("first cell", () -> full.ran(20), 0);
+        Checks.due("last cell", () -> full.ran(27), 0);
         Checks.due("unset", () -> full.ran(35), 1);
     }
 

@@ -5,6 +5,7 @@ public final class WhileTest {
     public static void main(String[] args) {
         steps();
         rests();
+        endsThatStay();
         passes();
         patience();
         mayBeUnset();
@@ -63,6 +64,19 @@ public final class WhileTest {
         leaves(1, 1, "a=1;while(a!=8){a=a+2;}", "a", "dead");
         leaves(1, 0, "a=5;while(a<50){a=a*3;}", "a", "55..2147483645 10 5");
         leaves(1, 1, "a=5;while(a<50){a=a*3;}", "a", "55..135 10 5");
+    }
+
+    private static void endsThatStay() {
+        leaves(0, 0, "a=5;b=in;while(b!=0){a=a+1;b=in;}", "a", "5..2147483647 1 0");
+        leaves(0, 0, "a=5;b=in;while(b!=0){a=a-1;b=in;}", "a", "-2147483648..5 1 0");
+        leaves(0, 0, "a=5;b=in;while(b!=0){a=7;b=in;}", "a", "5..9 2 1");
+        leaves(0, 0, "b=in;while(b!=0){a=5;b=in;}", "a", "5..5 0 5");
+        AlarmForge twice = with(1, 0, "b=1;");
+        twice.clear();
+        Checks.write(twice, "a=in;while(a<9){b=1;a=in;}");
+        twice.parse();
+        twice.analyse();
+        Checks.same("only b changes", Checks.valueOf(twice, "b"), "1..1 0 1");
     }
 
     private static void passes() {
