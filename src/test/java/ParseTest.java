@@ -163,6 +163,7 @@ public final class ParseTest {
         Checks.parses("a=1;".repeat(50), "50");
         Checks.parses("a=1;".repeat(49) + "b=1", "at 199");
         Checks.parses("a=1;".repeat(49) + "b=1}", "at 199");
+        Checks.parses("a=1;".repeat(49) + "b=1+", "at 200");
         Checks.parses("a=1;".repeat(49) + "b=12", "at 200");
         Checks.parses(" ".repeat(200), "0");
         Checks.parses(" ".repeat(199) + "a", "at 200");

@@ -71,6 +71,7 @@ public final class WhileTest {
         leaves(0, 0, "a=5;b=in;while(b!=0){a=a-1;b=in;}", "a", "-2147483648..5 1 0");
         leaves(0, 0, "a=5;b=in;while(b!=0){a=7;b=in;}", "a", "5..9 2 1");
         leaves(0, 0, "b=in;while(b!=0){a=5;b=in;}", "a", "5..5 0 5");
+        leaves(0, 0, "b=in;while(b!=0){a=b%5;b=in;}", "a", "-4..4 1 0");
         AlarmForge twice = with(1, 0, "b=1;");
         twice.clear();
         Checks.write(twice, "a=in;while(a<9){b=1;a=in;}");
