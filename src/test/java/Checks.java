@@ -7,10 +7,45 @@ final class Checks {
         int go();
     }
 
+    /** A call on some object. */
+    interface Use {
+        int on(AlarmForge forge);
+    }
+
+    /** Makes an object with some calls behind it. */
+    interface Maker {
+        AlarmForge make();
+    }
+
+    static final int LEAST = Integer.MIN_VALUE;
+    static final int MOST = Integer.MAX_VALUE;
+    static final String ALL = "-2147483648..2147483647 1 0";
+    // NUMERALS have nine digits at most, so the ends of ints are written as sums.
+    static final String LEAST_INT = "(-999999999-999999999-147483650)";
+    static final String MOST_INT = "(999999999+999999999+147483649)";
+    private static final String[] EXCEPTIONS = {"", "IllegalState", "IndexOutOfBounds", "Arithmetic",
+        "Arithmetic", "UnsupportedOperation"};
+
     private static int wrong = 0;
     private static int made = 0;
+    private static String sentence = "";
+    private static int madeBefore = 0;
 
     private Checks() {
+    }
+
+    /** The words of the document that the checks from here on are for. */
+    static void sentence(String words) {
+        endSentence();
+        sentence = words;
+        madeBefore = made;
+    }
+
+    private static void endSentence() {
+        if (!sentence.isEmpty() && made == madeBefore) {
+            wrong++;
+            System.out.println("no check for: " + sentence);
+        }
     }
 
     /** The bytes of up to eight characters, the first one highest. */
@@ -51,7 +86,8 @@ final class Checks {
         made++;
         if (!due.equals(got)) {
             wrong++;
-            System.out.println(what + ": answered " + got + ", due is " + due);
+            System.out.println(what + ": answered " + got + ", due is " + due
+                + (sentence.isEmpty() ? "" : " by: " + sentence));
         }
     }
 
@@ -124,7 +160,115 @@ final class Checks {
         same("run of " + text, runOf(parsed(text), 500), due);
     }
 
+    /** A run of a text with inputs: ends well, or with the one error that is marked. */
+    static void runsAsMarked(String marked, int... inputs) {
+        AlarmForge forge = parsed(plainOf(marked));
+        for (int v : inputs) {
+            forge.input(v);
+        }
+        String marks = marksOf(marked);
+        String due = marks.isEmpty() ? "0" : EXCEPTIONS[marks.charAt(0) - '0'] + " " + marks;
+        same("run of " + marked, runOf(forge, 500), due);
+    }
+
+    /** All that is warned of is marked. */
+    static void warnsAsMarked(String marked) {
+        same("warnings of " + marked, warningsOf(analysed(plainOf(marked))), marksOf(marked));
+    }
+
+    /** A text that is no PROGRAM from the mark ^ on. */
+    static void faultAtMark(String marked) {
+        parses(marked.replace("^", ""), "at " + marked.indexOf('^'));
+    }
+
+    /** A text without its marks: a ^ and a KIND in front of each POINT. */
+    static String plainOf(String marked) {
+        return marked.replaceAll("\\^[1-5]", "");
+    }
+
+    private static String marksOf(String marked) {
+        StringBuilder all = new StringBuilder();
+        int place = 0;
+        for (int i = 0; i < marked.length(); i++) {
+            if (marked.charAt(i) == '^') {
+                i++;
+                all.append(all.length() == 0 ? "" : " ").append(marked.charAt(i)).append('@').append(place);
+            } else {
+                place++;
+            }
+        }
+        return all.toString();
+    }
+
+    /** A VARIABLE with the ints from lo to hi. */
+    static String range(char name, int lo, int hi) {
+        return name + "=in;if(" + name + "<" + lo + "){" + name + "=" + lo + ";}if(" + hi + "<" + name + "){"
+            + name + "=" + hi + ";}";
+    }
+
+    /** A VARIABLE with all of -n to n times m, and r more. */
+    static String rests(char name, int n, int m, int r) {
+        return name + "=in;" + name + "=" + name + "%" + (n + 1) + "*" + m + "+" + r + ";";
+    }
+
+    /** A call that throws this, and leaves all as it is in an object that never had the call. */
+    static void refused(String what, Maker maker, Use call, String exception) {
+        AlarmForge called = maker.make();
+        due(what, () -> call.on(called), exception);
+        same("behind " + what, lookAtAll(called), lookAtAll(maker.make()));
+    }
+
+    /** All answers of an object, then those behind its runs, goings through and parses. */
+    static String lookAtAll(AlarmForge forge) {
+        StringBuilder all = new StringBuilder();
+        look(all, "where", forge::where);
+        for (int what = 0; what <= 6; what++) {
+            int w = what;
+            look(all, "count " + w, () -> forge.count(w));
+        }
+        lookAtRun(all, forge);
+        lookAtEnd(all, forge);
+        look(all, "run", () -> forge.run(500));
+        lookAtRun(all, forge);
+        look(all, "analyse", forge::analyse);
+        lookAtEnd(all, forge);
+        look(all, "parse", forge::parse);
+        look(all, "where", forge::where);
+        look(all, "run", () -> forge.run(500));
+        lookAtRun(all, forge);
+        look(all, "input", () -> forge.input(3));
+        return all.toString();
+    }
+
+    private static void lookAtRun(StringBuilder all, AlarmForge forge) {
+        for (int what = 0; what <= 35; what++) {
+            int w = what;
+            if (w <= 2 || w >= 10 && w <= 15 || w >= 20 && w <= 27 || w >= 30) {
+                look(all, "ran " + w, () -> forge.ran(w));
+            }
+        }
+    }
+
+    private static void lookAtEnd(StringBuilder all, AlarmForge forge) {
+        for (int k = forge.count(4) - 1; k >= 0; k--) {
+            int n = k;
+            look(all, "warning " + n, () -> forge.warning(n));
+        }
+        for (int k = 0; k <= 17; k++) {
+            for (int what = 0; what <= 4 && (k <= 5 || k >= 10); what++) {
+                int n = k;
+                int w = what;
+                look(all, "left " + n + " " + w, () -> forge.left(n, w));
+            }
+        }
+    }
+
+    private static void look(StringBuilder all, String what, Call call) {
+        all.append(what).append(": ").append(answer(call)).append("; ");
+    }
+
     static void end() {
+        endSentence();
         System.out.println(made + " checks, " + wrong + " wrong");
         if (wrong != 0 || made == 0) {
             System.exit(1);
