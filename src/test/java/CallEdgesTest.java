@@ -81,10 +81,11 @@ public final class CallEdgesTest {
 
     private static void chooseRefused() {
         Checks.sentence("IllegalArgumentException if a number is not as said.");
-        int[][] wrong = {{-1, 0}, {2, 0}, {0, -1}, {0, 6}, {1, -1}, {1, 6}, {-1, 6}, {2, -1}, {Checks.LEAST, 3}, {Checks.MOST, 3},
-            {0, Checks.LEAST}, {1, Checks.MOST}};
+        int[][] wrong = {{-1, 0}, {2, 0}, {0, -1}, {0, 6}, {1, -1}, {1, 6}, {-1, 6}, {2, -1},
+            {Checks.LEAST, 3}, {Checks.MOST, 3}, {0, Checks.LEAST}, {1, Checks.MOST}};
         for (int[] w : wrong) {
-            Checks.refused("choose " + w[0] + " " + w[1], CallEdgesTest::busy, x -> x.choose(w[0], w[1]), "IllegalArgument");
+            Checks.refused("choose " + w[0] + " " + w[1], CallEdgesTest::busy, x -> x.choose(w[0], w[1]),
+                "IllegalArgument");
         }
     }
 
@@ -145,6 +146,12 @@ public final class CallEdgesTest {
         Checks.refused("warning, new", AlarmForge::new, x -> x.warning(0), "IndexOutOfBounds");
         Checks.refused("warning, parsed", () -> Checks.parsed("a=b;"), x -> x.warning(0), "IndexOutOfBounds");
         Checks.refused("warning, none", () -> Checks.analysed("a=1;"), x -> x.warning(0), "IndexOutOfBounds");
+        AlarmForge first = Checks.analysed("A[4]=1;");
+        first.clear();
+        Checks.write(first, "B[0]=1;a=b;");
+        first.parse();
+        Checks.due("one, at another place", first::analyse, 1);
+        Checks.due("not that of the first place", () -> first.warning(0), 1024 + 9);
         AlarmForge forge = Checks.analysed("a=b;");
         forge.clear();
         Checks.write(forge, "a=1;");
@@ -155,7 +162,8 @@ public final class CallEdgesTest {
     }
 
     private static void leftParts() {
-        Checks.sentence("of VARIABLE k (0 to 5), or CELL k - 10 (10 to 17), what 0: lo, 1: hi, 2: m, 3: r of its VALUE");
+        Checks.sentence("of VARIABLE k (0 to 5), or CELL k - 10 (10 to 17), what 0: lo, 1: hi, 2: m, 3: r"
+            + " of its VALUE");
         StringBuilder text = new StringBuilder("a=in;a=a%4*9;");
         for (int k = 1; k < 6; k++) {
             text.append((char) ('a' + k)).append("=a+").append(k).append(';');
@@ -253,6 +261,14 @@ public final class CallEdgesTest {
             Checks.same("left 1 " + w, Checks.answer(() -> Checks.analysed("b=1;").left(1, w)).startsWith("U"), false);
         }
         Checks.due("that it may be unset is told", () -> Checks.analysed("b=1;").left(0, 4), 1);
+        AlarmForge forge = Checks.analysed("a=1;b=1;c=1;d=1;e=1;f=1;");
+        forge.clear();
+        forge.parse();
+        forge.analyse();
+        for (int k = 0; k < 6; k++) {
+            int n = k;
+            Checks.due("no more a value of " + n, () -> forge.left(n, 0), "UnsupportedOperation");
+        }
     }
 
     private static void leftDead() {
@@ -260,7 +276,7 @@ public final class CallEdgesTest {
         for (int k : new int[] {0, 1, 5, 10, 17}) {
             for (int what = 0; what <= 4; what++) {
                 int w = what;
-                Checks.refused("left " + k + " " + w + " of dead", CallEdgesTest::dead, x -> x.left(k, w), "UnsupportedOperation");
+                Checks.refused("dead " + k + " " + w, CallEdgesTest::dead, x -> x.left(k, w), "UnsupportedOperation");
             }
         }
         AlarmForge forge = dead();
@@ -272,7 +288,7 @@ public final class CallEdgesTest {
     }
 
     private static void counts() {
-        Checks.sentence("What 0: characters of the TEXT, 1: INPUTS, 2: STATEMENTS parsed, 5: UNROLL, 6: NARROW");
+        Checks.sentence("What 0: characters of the TEXT, 1: INPUTS, 2: STATEMENTS parsed");
         int[] first = {0, 0, 0, 0, 0, 1, 1};
         int[] due = {16, 2, 7, busy().count(3), busy().count(4), 3, 2};
         for (int what = 0; what <= 6; what++) {

@@ -91,6 +91,11 @@ public final class GrammarEdgesTest {
                 }
             }
         }
+        for (String start : new String[] {"if(a<3){", "while(a<3){", "if(5<a){}else{"}) {
+            String deepest = "a=0;" + start + start + start + "a=a+3;}}}assert(a==3);";
+            Checks.runsAsMarked(deepest);
+            Checks.warnsAsMarked(deepest);
+        }
         Checks.faultAtMark("if(1<2){if(1<2){if(1<2){}else{a=1;if(1<2)^{}else{}}}}");
         Checks.parses("if(1<2){if(1<2){if(1<2){}}if(1<2){}else{}}if(1<2){if(1<2){if(1<2){}}}", "7");
     }
@@ -100,7 +105,8 @@ public final class GrammarEdgesTest {
     }
 
     private static void factorDepth() {
-        Checks.sentence("FACTORS at most 10 (an EXPR in ( ) or [ ] of a FACTOR 1 deeper than that, the FACTOR behind a - likewise");
+        Checks.sentence("FACTORS at most 10 (an EXPR in ( ) or [ ] of a FACTOR 1 deeper than that, the"
+            + " FACTOR behind a - likewise");
         Checks.parses("a=" + nested("(", 10, "1", ")") + ";", "1");
         Checks.faultAtMark("a=" + nested("(", 11, "^1", ")") + ";");
         Checks.parses("a=" + nested("A[", 10, "1", "]") + ";", "1");
@@ -112,6 +118,15 @@ public final class GrammarEdgesTest {
         Checks.faultAtMark("a=-(" + nested("(-B[", 3, "^b", "])") + ");");
         Checks.parses("a=" + nested("(", 10, "1+2*3-4", ")") + ";", "1");
         Checks.parses("a=" + nested("(1+2*", 10, "1*2+3", ")") + ";", "1");
+        // As many parts as can wait for others: a sum's and a product's at each depth, and a COND's.
+        String full = nested("1+1*(", 10, "1+1*1", ")");
+        for (String statement : new String[] {"a=" + full + ";assert(a==12);", "B[0]=" + full + ";assert(B[0]==12);",
+            "assert(12==" + full + ");", "assert(" + full + "==12);"}) {
+            Checks.runsAsMarked(statement);
+            Checks.warnsAsMarked(statement);
+        }
+        Checks.runsAsMarked("A[" + nested("0+1*(", 10, "0+1*3", ")") + "]=1;assert(A[3]==1);");
+        Checks.runsAsMarked("^5assert(13==" + full + ");");
         Checks.faultAtMark("a=" + nested("(", 9, "1+-(^2)", ")") + ";");
         Checks.faultAtMark("a=" + nested("(", 10, "1+2*-^3", ")") + ";");
         Checks.parses("a=(1)+(2)*(3)-(((4)))+((((((((((5))))))))));", "1");
@@ -150,6 +165,8 @@ public final class GrammarEdgesTest {
             Checks.parses("a=(1" + "+1".repeat(14) + ")" + sign + "1;", "1");
             Checks.faultAtMark("a=(1" + "+1".repeat(15) + ")^" + sign + "1;");
             Checks.parses("a=1" + sign + "(1" + "+1".repeat(15) + ");", "1");
+            // What is higher still is refused likewise.
+            Checks.faultAtMark("a=1" + sign + "(1" + "+1".repeat(15) + ")^" + sign + "1;");
         }
         Checks.parses("if(1" + "+1".repeat(15) + "<1" + "+1".repeat(15) + "){}", "1");
         Checks.faultAtMark("if(1" + "+1".repeat(15) + "<1" + "+1".repeat(15) + "^+1){}");
@@ -218,6 +235,24 @@ public final class GrammarEdgesTest {
         Checks.due("no program again", forge::parse, "IllegalArgument");
         Checks.write(forge, "2;");
         Checks.due("gone on with", forge::parse, 2);
+        parsedAnew();
+    }
+
+    /** Nothing of what was parsed before is in what is parsed now. */
+    private static void parsedAnew() {
+        AlarmForge forge = new AlarmForge();
+        String[] texts = {"if(2<1){a=1;}else{b=2;}c=3;", "if(2<1){a=1;}", "if(1<2){}",
+            "a=" + nested("1+1*(", 10, "1+1*1", ")") + ";"};
+        String[] due = {"3 begun", "1 begun", "1 begun", "1 begun"};
+        for (int n = 0; n < 30; n++) {
+            int i = Math.min(n / 6, 3);
+            forge.clear();
+            Checks.write(forge, texts[i]);
+            forge.parse();
+            Checks.due("run of " + texts[i], () -> forge.run(9), 0);
+            Checks.same("anew " + texts[i], forge.ran(1) + " begun", due[i]);
+        }
+        Checks.due("the last one", () -> forge.ran(10), 12);
     }
 
     private static void refusedParse() {
@@ -323,6 +358,7 @@ public final class GrammarEdgesTest {
         Checks.faultAtMark("a=1\n\n  ^");
         Checks.faultAtMark(" ".repeat(198) + "a=^");
         Checks.faultAtMark("a=1;".repeat(49) + "b=12^");
+        Checks.faultAtMark("a=1;".repeat(49) + "b=1+^");
     }
 
     private static void noFault() {

@@ -347,15 +347,15 @@ public final class RunEdgesTest {
     }
 
     private static void limits() {
-        Checks.sentence("A RUN of at most so many STATEMENTS (0 to 500)"
-            + ": IllegalArgumentException if the number is not as said");
+        Checks.sentence("A RUN of at most so many STATEMENTS (0 to 500)");
         Checks.due("0", () -> withInputs(2).run(0), -5);
         Checks.due("1", () -> withInputs(2).run(1), -5);
         Checks.due("500", () -> withInputs(2).run(500), 0);
+        Checks.sentence("IllegalArgumentException if the number is not as said");
         int[] wrong = {-1, 501, Checks.LEAST, Checks.MOST};
         for (int limit : wrong) {
             Checks.refused("limit " + limit, () -> withInputs(2), x -> x.run(limit), "IllegalArgument");
-            Checks.refused("limit " + limit + ", nothing parsed", AlarmForge::new, x -> x.run(limit), "IllegalArgument");
+            Checks.refused("limit " + limit + ", new", AlarmForge::new, x -> x.run(limit), "IllegalArgument");
         }
         Checks.sentence("0 if it ended with the PROGRAM, -5 if it was STOPPED");
         Checks.due("ended", () -> Checks.parsed("a=1;").run(1), 0);
@@ -383,7 +383,8 @@ public final class RunEdgesTest {
     }
 
     private static boolean isKnown(int what) {
-        return what >= 0 && what <= 2 || what >= 10 && what <= 15 || what >= 20 && what <= 27 || what >= 30 && what <= 35;
+        return what >= 0 && what <= 2 || what >= 10 && what <= 15 || what >= 20 && what <= 27
+            || what >= 30 && what <= 35;
     }
 
     private static void ranBeforeRun() {
@@ -414,7 +415,14 @@ public final class RunEdgesTest {
         Checks.due("an error", () -> forge.ran(0), 4 * 1024 + 8);
         forge.run(1);
         Checks.due("stopped, of the latest", () -> forge.ran(0), 0);
-        Checks.sentence("10 to 15: a VARIABLE (0 if UNSET), 20 to 27: CELLS of A, then of B; 30 to 35: 1 if a VARIABLE is UNSET, else 0");
+        forge.clear();
+        Checks.write(forge, "b=1;a=c;");
+        forge.parse();
+        forge.analyse();
+        Checks.due("a parse is no run", () -> forge.ran(1), 1);
+        Checks.due("its value stays", () -> forge.ran(30), 0);
+        Checks.sentence("10 to 15: a VARIABLE (0 if UNSET), 20 to 27: CELLS of A, then of B; 30 to 35: 1 if"
+            + " a VARIABLE is UNSET, else 0");
         AlarmForge full = behindRun("a=-1;b=0;c=3;A[0]=4;A[1]=5;A[3]=6;B[0]=7;B[2]=8;B[3]=9;f=10;e=d;");
         int[] variables = {-1, 0, 3, 0, 0, 10};
         int[] unset = {0, 0, 0, 1, 1, 0};

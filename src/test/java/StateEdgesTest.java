@@ -55,9 +55,9 @@ public final class StateEdgesTest {
 
     private static void becomesDead() {
         Checks.sentence("DEAD becomes what has nothing to go on with: an EXPR that is NOTHING.");
-        String[] dead = {"a=1^4/0;", "a=^1b;", "a=^2A[4];", "a=99999^3*99999;", "A[1^4/0]=1;", "A[^1b]=1;", "A[1]=1^4/0;",
-            "if(1^4/0<1){}", "if(1<1^4/0){}", "if(^1a<1){}else{}", "while(1^4/0<1){}", "while(1<^1a){}", "assert(1^4/0<1);",
-            "assert(1<1^4/0);", "^5assert(1<1);"};
+        String[] dead = {"a=1^4/0;", "a=^1b;", "a=^2A[4];", "a=99999^3*99999;", "A[1^4/0]=1;", "A[^1b]=1;",
+            "A[1]=1^4/0;", "if(1^4/0<1){}", "if(1<1^4/0){}", "if(^1a<1){}else{}", "while(1^4/0<1){}", "while(1<^1a){}",
+            "assert(1^4/0<1);", "assert(1<1^4/0);", "^5assert(1<1);"};
         for (String text : dead) {
             Checks.warnsAsMarked(text + "c=d;");
             Checks.leaves(Checks.plainOf(text), "B3", "dead");
@@ -70,6 +70,8 @@ public final class StateEdgesTest {
         Checks.sentence("JOIN and WIDEN go by all parts (MAY BE UNSET if it may in one)");
         unsetLeft("", "111111");
         unsetLeft("a=in;if(a<0){b=1;c=1;}else{c=2;d=2;}", "010111");
+        unsetLeft("b=in;if(b<0){a=1;}else{}", "101111");
+        unsetLeft("b=in;if(b<0){}else{a=1;}", "101111");
         unsetLeft("a=in;if(a<0){f=1;}else{}", "011111");
         unsetLeft("a=in;if(a<0){}else{f=1;}", "011111");
         unsetLeft("a=in;if(a<0){f=1;}else{f=2;}", "011110");
@@ -190,6 +192,9 @@ public final class StateEdgesTest {
         Checks.leaves(Checks.rests('a', 3, 3, 0) + "B[a]=8;", "B1", "0..0 0 0");
         Checks.leaves(Checks.range('a', 4, 9) + "B[a]=8;", "B0", "dead");
         Checks.leaves("B[-1]=8;", "B0", "dead");
+        // That there is no CELL is looked at behind e.
+        Checks.warnsAsMarked("^2B[4]=^1b;");
+        Checks.warnsAsMarked("^2B[4]=1^4/0;");
     }
 
     private static void equal() {
@@ -202,7 +207,8 @@ public final class StateEdgesTest {
     }
 
     private static void unequal() {
-        Checks.sentence("!= : if y has m 0: lo of x that is y's r becomes 1 more, hi 1 less (DEAD if it was that alone),"
+        Checks.sentence("!= : if y has m 0: lo of x that is y's r becomes 1 more, hi 1 less (DEAD if it was"
+            + " that alone),"
             + " then for y by x as it was likewise");
         String some = Checks.range('a', 2, 6);
         Checks.leaves(some + "assert(a!=1);", "a", "2..6 1 0");
@@ -224,7 +230,8 @@ public final class StateEdgesTest {
     }
 
     private static void below() {
-        Checks.sentence("< : hi of x becomes the lesser one of it and y's hi - 1, lo of y the greater one of it and x's lo + 1 (as it was)");
+        Checks.sentence("< : hi of x becomes the lesser one of it and y's hi - 1, lo of y the greater one"
+            + " of it and x's lo + 1 (as it was)");
         String two = Checks.range('a', 2, 9) + Checks.range('b', 0, 6);
         Checks.leaves(two + "assert(a<b);", "a", "2..5 1 0");
         Checks.leaves(two + "assert(a<b);", "b", "3..6 1 0");
@@ -257,7 +264,8 @@ public final class StateEdgesTest {
     }
 
     private static void otherWayRound() {
-        Checks.sentence("(or, for not, as the other way round: == and != change, a < b becomes b <= a, a <= b becomes b < a)");
+        Checks.sentence("(or, for not, as the other way round: == and != change, a < b becomes b <= a, a <="
+            + " b becomes b < a)");
         String some = Checks.range('a', 2, 6);
         Checks.leaves(some + "if(a==2){a=4;}", "a", "3..6 1 0");
         Checks.leaves(some + "if(6==a){a=4;}", "a", "2..5 1 0");
@@ -282,6 +290,7 @@ public final class StateEdgesTest {
         Checks.leaves("a=in;A[1]=a;assert(A[1]<5);", "A1", ALL);
         Checks.leaves("a=in;b=in;assert(a<b+0);", "a", "-2147483648..2147483646 1 0");
         Checks.leaves("a=in;b=in;assert(a<b+0);", "b", ALL);
+        Checks.warnsAsMarked("a=in;if(a<0){b=1;}assert(^1b==1);c=^1b;");
         // The same one on both sides has that of the second one.
         Checks.leaves(Checks.range('a', 2, 6) + "assert(a<a);", "a", "3..6 1 0");
         Checks.leaves(Checks.range('a', 2, 6) + "if(a<=a){a=9;}", "a", "3..9 1 0");
@@ -299,6 +308,12 @@ public final class StateEdgesTest {
         String deep = "c=in;if(c<1){if(c<0){if(c<-1){a=1;}else{a=5;}}else{a=9;}}else{a=13;}";
         Checks.leaves(deep, "a", "1..13 4 1");
         Checks.leaves(deep, "c", ALL);
+        String elses = "c=in;if(c<1){a=1;}else{if(c<2){a=5;}else{if(c<3){a=9;}else{a=13;}}}";
+        Checks.leaves(elses, "a", "1..13 4 1");
+        Checks.leaves(elses, "c", ALL);
+        String around = "c=in;if(c<1){a=0;while(a<5){if(a<3){a=a+1;}else{a=a+2;}}}else{a=9;}";
+        Checks.leaves(around, "a", "5..9 1 0");
+        Checks.leaves(around, "c", ALL);
     }
 
     private static void asserts() {
@@ -311,6 +326,10 @@ public final class StateEdgesTest {
         Checks.warnsAsMarked(Checks.range('a', 2, 6) + "^5assert(a!=4);^5assert(a!=4);");
         Checks.warnsAsMarked("a=2;assert(a==2);^5assert(a!=2);b=c;");
         Checks.leaves("a=in;assert(a<5);", "a", "-2147483648..4 1 0");
+        String deep = "a=in;if(a<5){if(a<4){if(a<3){^5assert(0<=a);assert(a<3);b=a;}}}";
+        Checks.warnsAsMarked(deep);
+        Checks.leaves(Checks.plainOf(deep), "b", "0..2 1 0");
+        unsetLeft("if(0<1){if(0<1){a=0;while(a<5){assert(a<9);a=a+1;c=7;}}}", "011111");
     }
 
     private static void passes(int unroll, int narrow, String text, int due) {
@@ -326,6 +345,13 @@ public final class StateEdgesTest {
         passes(0, 0, "a=in;while(a<5){b=1;a=in;}", 3);
         passes(0, 0, "a=in;while(a<5){A[3]=1;a=in;}", 3);
         passes(0, 0, "a=in;while(a<5){b=1;a=in;if(b<9){c=2;}}", 3);
+        AlarmForge again = with(0, 0, "b=1;");
+        again.clear();
+        Checks.write(again, "a=in;while(a<9){b=1;a=in;}");
+        again.parse();
+        again.analyse();
+        Checks.due("not by what was before", () -> again.count(3), 3);
+        Checks.same("which is gone", Checks.valueOf(again, "b"), "1..1 0 1");
     }
 
     private static void unrolled() {
@@ -344,7 +370,8 @@ public final class StateEdgesTest {
     }
 
     private static void patience() {
-        Checks.sentence("with k above 20 all VARIABLES and CELLS of it being all ints besides (MAY BE UNSET as by JOIN)");
+        Checks.sentence("with k above 20 all VARIABLES and CELLS of it being all ints besides (MAY BE UNSET"
+            + " as by JOIN)");
         String slow = "a=0;b=0;c=0;d=0;e=0;f=0;while(B[0]!=1){a=a+1;if(99<a){b=b+1;}if(99<b){c=c+1;}"
             + "if(99<c){d=d+1;}if(99<d){e=e+1;}if(99<e){f=f+1;}}";
         passes(2, 0, slow, 22);
@@ -387,7 +414,8 @@ public final class StateEdgesTest {
     }
 
     private static void onlyTheLastTime() {
-        Checks.sentence("WARNINGS are the KINDS with their POINTS that come up; in a while only as it is gone through the last time");
+        Checks.sentence("WARNINGS are the KINDS with their POINTS that come up; in a while only as it is"
+            + " gone through the last time");
         String text = "a=0;c=0;while(a<3){A[c]=1;a=a+1;c=a;}";
         Checks.same("widened", Checks.warningsOf(with(1, 0, text)), "2@19");
         Checks.same("narrowed", Checks.warningsOf(with(1, 1, text)), "");

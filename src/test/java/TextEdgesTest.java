@@ -64,7 +64,8 @@ public final class TextEdgesTest {
             boolean fits = c == 10 || c >= 32 && c <= 126;
             for (int shift = 0; shift < 64; shift += 8) {
                 long w = (long) c << shift;
-                Checks.due("byte " + c + " at " + shift, () -> new AlarmForge().text(w), fits ? "1" : "IllegalArgument");
+                String due = fits ? "1" : "IllegalArgument";
+                Checks.due("byte " + c + " at " + shift, () -> new AlarmForge().text(w), due);
             }
         }
     }
@@ -152,8 +153,12 @@ public final class TextEdgesTest {
 
     private static void words() {
         Checks.sentence("letters that follow each other are one word");
-        Checks.faultAtMark("^ab=1;");
-        Checks.faultAtMark("^aA[0]=1;");
+        for (int i = 0; i < LETTERS.length(); i++) {
+            Checks.faultAtMark("^a" + LETTERS.charAt(i) + "=1;");
+            Checks.faultAtMark("b=1;^A" + LETTERS.charAt(i) + "[0]=1;");
+        }
+        Checks.faultAtMark("^" + "a".repeat(200));
+        Checks.faultAtMark(" ".repeat(199) + "a^");
         Checks.faultAtMark("a=^ina;");
         Checks.faultAtMark("a=^inin;");
         Checks.faultAtMark("^ifa<1){}");
@@ -167,8 +172,8 @@ public final class TextEdgesTest {
             String due = c >= 'a' && c <= 'f' ? "1" : c == 'A' || c == 'B' ? "at 3" : "at 2";
             Checks.parses("a=" + c + ";", due);
         }
-        String[] others = {"If", "IF", "i", "ifs", "els", "elsee", "ELSE", "While", "whil", "asser", "asserts", "I", "n",
-            "iN", "aa", "AB", "AA", "int", "while"};
+        String[] others = {"If", "IF", "i", "ifs", "els", "elsee", "ELSE", "While", "whil", "asser", "asserts",
+            "I", "n", "iN", "aa", "AB", "AA", "int", "while"};
         for (String word : others) {
             Checks.parses("a=" + word + ";", "at 2");
             Checks.parses(word + "=1;", word.equals("while") ? "at 5" : "at 0");
@@ -185,7 +190,8 @@ public final class TextEdgesTest {
                 Checks.parses("a=1" + sign + "2;", "+-*/%".contains(sign) ? "1" : c == ';' ? "at 4" : "at 3");
                 Checks.parses("a" + sign + "1;", c == '=' ? "1" : "at 1");
                 Checks.parses("if(1" + sign + "2){}", c == '<' ? "1" : "+-*/%".contains(sign) ? "at 6" : "at 4");
-                Checks.parses("if(1" + sign + "=2){}", "=!<".contains(sign) ? "1" : "+-*/%".contains(sign) ? "at 5" : "at 4");
+                Checks.parses("if(1" + sign + "=2){}",
+                    "=!<".contains(sign) ? "1" : "+-*/%".contains(sign) ? "at 5" : "at 4");
                 Checks.parses("a=1;" + sign, "at 4");
             }
         }
@@ -233,7 +239,8 @@ public final class TextEdgesTest {
     }
 
     private static void bytesOfText() {
-        Checks.sentence("The characters in the bytes of w, the highest first, zeros left out, come to the TEXT: how many it has.");
+        Checks.sentence("The characters in the bytes of w, the highest first, zeros left out, come to the"
+            + " TEXT: how many it has.");
         AlarmForge forge = new AlarmForge();
         Checks.due("none", () -> forge.text(0), 0);
         Checks.due("eight", () -> forge.text(Checks.pack("a=1;b=2;")), 8);
@@ -252,12 +259,12 @@ public final class TextEdgesTest {
     }
 
     private static void refusedBytes() {
-        Checks.sentence("IllegalArgumentException if another byte is not as said; nothing changes then.");
+        Checks.sentence("IllegalArgumentException if another byte is not as said");
         int[] bad = {1, 9, 11, 31, 127, 128, 255};
         for (int c : bad) {
             for (int shift = 0; shift < 64; shift += 8) {
                 long w = 0x613D393B623D393BL & ~(255L << shift) | (long) c << shift;
-                Checks.refused("text with byte " + c + " at " + shift, TextEdgesTest::busy, x -> x.text(w), "IllegalArgument");
+                Checks.refused("byte " + c + " at " + shift, TextEdgesTest::busy, x -> x.text(w), "IllegalArgument");
             }
         }
         Checks.refused("text of ones alone", TextEdgesTest::busy, x -> x.text(-1), "IllegalArgument");
@@ -275,10 +282,12 @@ public final class TextEdgesTest {
             String row = "a=1;".repeat(50).substring(0, has);
             int room = 200 - has;
             String fits = "        ".substring(0, room);
-            Checks.refused(room + 1 + " to " + has, () -> Checks.written(row), x -> x.text(Checks.pack(fits + ' ')), "IllegalState");
-            Checks.refused("eight to " + has, () -> Checks.written(row), x -> x.text(Checks.pack("        ")), "IllegalState");
-            Checks.due(room + " to " + has, () -> Checks.written(row).text(Checks.pack(fits)), 200);
-            Checks.due(room + " and zeros to " + has, () -> Checks.written(row).text(Checks.pack(fits) << 8 * (8 - room)), 200);
+            Checks.Maker maker = () -> Checks.written(row);
+            Checks.refused(room + 1 + " to " + has, maker, x -> x.text(Checks.pack(fits + ' ')), "IllegalState");
+            Checks.refused("eight to " + has, maker, x -> x.text(Checks.pack("        ")), "IllegalState");
+            Checks.due(room + " to " + has, () -> maker.make().text(Checks.pack(fits)), 200);
+            long high = Checks.pack(fits) << 8 * (8 - room);
+            Checks.due(room + " and zeros to " + has, () -> maker.make().text(high), 200);
         }
         Checks.due("eight to 192", () -> Checks.written(" ".repeat(192)).text(Checks.pack("        ")), 200);
     }

@@ -118,7 +118,8 @@ public final class ValueEdgesTest {
     }
 
     private static void joinOfTwo() {
-        Checks.sentence("the lesser lo, the greater hi, m the greatest common divisor of both m and of the difference of both r"
+        Checks.sentence("the lesser lo, the greater hi, m the greatest common divisor of both m and of the"
+            + " difference of both r"
             + " (of 0 and a number: that number), r what r leaves by that (or r if m is 0)");
         Checks.leaves(either(3, 3), "b", "3..3 0 3");
         Checks.leaves(either(-3, -3), "b", "-3..-3 0 -3");
@@ -151,7 +152,8 @@ public final class ValueEdgesTest {
     }
 
     private static void meetModulus() {
-        Checks.sentence("m and r those of the one with m 0, or of the one with the greater m (the first one, if they are alike)");
+        Checks.sentence("m and r those of the one with m 0, or of the one with the greater m (the first"
+            + " one, if they are alike)");
         String low = Checks.range('a', 0, 9);
         for (int r : new int[] {0, 4, 9}) {
             a(low + "assert(a==" + r + ");", r + ".." + r + " 0 " + r);
@@ -167,7 +169,8 @@ public final class ValueEdgesTest {
     }
 
     private static void meetToNothing() {
-        Checks.sentence("NOTHING, if both m are not 0 and the r leave different rests by the greatest common divisor of both m,"
+        Checks.sentence("NOTHING, if both m are not 0 and the r leave different rests by the greatest"
+            + " common divisor of both m,"
             + " or if one has m 0 and its r is not one of the other");
         for (String cond : new String[] {"a==b", "b==a"}) {
             Checks.leaves(FOURS + Checks.rests('b', 4, 6, 2) + "assert(" + cond + ");", "a", "dead");
@@ -185,7 +188,8 @@ public final class ValueEdgesTest {
     }
 
     private static void sumsAndProducts() {
-        Checks.sentence("ADD, SUB: from lo + lo to hi + hi, from lo - hi to hi - lo; m the greatest common divisor of both m");
+        Checks.sentence("ADD, SUB: from lo + lo to hi + hi, from lo - hi to hi - lo; m the greatest common"
+            + " divisor of both m");
         String two = FOURS + Checks.rests('b', 2, 6, 3);
         c(two + "c=a+b;", "-24..32 2 0");
         c(two + "c=a-b;", "-30..26 2 0");
@@ -290,7 +294,8 @@ public final class ValueEdgesTest {
     }
 
     private static void quotients() {
-        Checks.sentence("DIV: from the least to the greatest of all quotients (as in Java, of longs) of lo, hi by lo', hi' of each part; m 1");
+        Checks.sentence("DIV: from the least to the greatest of all quotients (as in Java, of longs) of lo,"
+            + " hi by lo', hi' of each part; m 1");
         c(Checks.range('a', -7, 9) + "c=a/2;", "-3..4 1 0");
         c(Checks.range('a', -7, 9) + "c=a/-2;", "-4..3 1 0");
         c(Checks.range('a', 5, 9) + Checks.range('b', 2, 3) + "c=a/b;", "1..4 1 0");
@@ -324,7 +329,8 @@ public final class ValueEdgesTest {
     }
 
     private static void remainders() {
-        Checks.sentence("REM: with d the greatest of |lo'|, |hi'| of the parts, less 1: from the greater of lo (0 if that is above 0)"
+        Checks.sentence("REM: with d the greatest of |lo'|, |hi'| of the parts, less 1: from the greater of"
+            + " lo (0 if that is above 0)"
             + " and -d, to the lesser of hi (0 if that is below 0) and d; m 1");
         c(Checks.range('a', 5, 9) + "c=a%4;", "0..3 1 0");
         c(Checks.range('a', -9, -5) + "c=a%4;", "-3..0 1 0");
@@ -384,9 +390,10 @@ public final class ValueEdgesTest {
     }
 
     private static void widenUp() {
-        Checks.sentence("hi, if it is greater, the least of -100, -10, -1, 0, 1, 10, 100, 2147483647 that is not below it");
-        int[][] due = {{-101, -100}, {-100, -100}, {-99, -10}, {-11, -10}, {-10, -10}, {-9, -1}, {-2, -1}, {-1, -1}, {0, 0},
-            {1, 1}, {2, 10}, {9, 10}, {10, 10}, {11, 100}, {99, 100}, {100, 100}, {101, Checks.MOST}};
+        Checks.sentence("hi, if it is greater, the least of -100, -10, -1, 0, 1, 10, 100, 2147483647 that"
+            + " is not below it");
+        int[][] due = {{-101, -100}, {-100, -100}, {-99, -10}, {-11, -10}, {-10, -10}, {-9, -1}, {-2, -1},
+            {-1, -1}, {0, 0}, {1, 1}, {2, 10}, {9, 10}, {10, 10}, {11, 100}, {99, 100}, {100, 100}, {101, Checks.MOST}};
         for (int[] d : due) {
             widened(-150, d[0] - 2, "-150.." + d[1]);
         }
@@ -400,6 +407,12 @@ public final class ValueEdgesTest {
         widened(7, 5, "1..7");
         widened(-5, -5, "-5..-1");
         widened(-5, -7, "-10..-5");
+        AlarmForge fresh = Checks.parsed("b=in;while(b!=0){a=b%8;c=7;b=in;}");
+        fresh.choose(0, 0);
+        fresh.choose(1, 0);
+        fresh.analyse();
+        Checks.same("NOTHING does not grow", Checks.valueOf(fresh, "a"), "-7..7 1 0");
+        Checks.same("nor to one int", Checks.valueOf(fresh, "c"), "7..7 0 7");
         String inside = Checks.range('a', -7, 7) + "b=in;while(b!=0){a=b%8;b=in;}";
         AlarmForge forge = Checks.parsed(inside);
         forge.choose(0, 0);
@@ -414,6 +427,11 @@ public final class ValueEdgesTest {
         forge.choose(0, 0);
         forge.choose(1, 0);
         forge.analyse();
+        AlarmForge once = Checks.parsed("a=5;b=in;while(b!=0){a=8;b=in;}");
+        once.choose(0, 0);
+        once.choose(1, 0);
+        once.analyse();
+        Checks.due("tight at once, so it is over at once", () -> once.count(3), 3);
         Checks.same("up to 10", Checks.valueOf(forge, "a"), "5..8 3 2");
         Checks.same("down to -10", Checks.valueOf(forge, "c"), "-8..-5 3 1");
         Checks.same("up to the greatest", Checks.valueOf(forge, "d"), "0..2147483646 7 0");
