@@ -247,6 +247,8 @@ public final class CallEdgesTest {
         Checks.due("a run is none", () -> forge.left(0, 0), "IllegalState");
         Checks.due("gone through", () -> forge.analyse(), 0);
         Checks.due("then there was one", () -> forge.left(0, 0), 1);
+        Checks.due("a run", () -> forge.run(1), 0);
+        Checks.due("takes none away", () -> forge.left(0, 0), 1);
         forge.clear();
         Checks.due("parse of another", forge::parse, 0);
         Checks.due("the latest is still that one", () -> forge.left(0, 0), 1);
