@@ -9,6 +9,7 @@ public final class CallEdgesTest {
         warningsInOrder();
         warningRefused();
         leftParts();
+        leftBehindProgram();
         leftMayBeUnset();
         leftOtherWhat();
         leftOtherNumber();
@@ -190,6 +191,24 @@ public final class CallEdgesTest {
         Checks.due("r of the least", () -> least.left(0, 3), Checks.LEAST);
     }
 
+    private static void leftBehindProgram() {
+        Checks.sentence("Behind the PROGRAM, by the latest going through");
+        Checks.same("at its end", Checks.valueOf(Checks.analysed("a=1;a=2;a=a+1;"), "a"), "3..3 0 3");
+        Checks.same("behind its last if", Checks.valueOf(Checks.analysed("a=in;if(a<5){a=5;}"), "a"),
+            "5..2147483647 1 0");
+        Checks.same("behind its last while", Checks.valueOf(Checks.analysed("a=in;while(a<5){a=5;}"), "a"),
+            "5..2147483647 1 0");
+        AlarmForge forge = Checks.analysed("a=1;");
+        Checks.write(forge, "a=2;");
+        Checks.same("a text alone", Checks.valueOf(forge, "a"), "1..1 0 1");
+        forge.parse();
+        Checks.same("a parse alone", Checks.valueOf(forge, "a"), "1..1 0 1");
+        forge.run(500);
+        Checks.same("a run alone", Checks.valueOf(forge, "a"), "1..1 0 1");
+        forge.analyse();
+        Checks.same("a later one", Checks.valueOf(forge, "a"), "2..2 0 2");
+    }
+
     private static void leftMayBeUnset() {
         Checks.sentence("4: 1 if it MAY BE UNSET, else 0");
         AlarmForge forge = Checks.analysed("a=in;if(a<0){b=1;f=1;}else{f=2;}");
@@ -300,6 +319,15 @@ public final class CallEdgesTest {
         }
         Checks.due("200 characters", () -> Checks.written(" ".repeat(200)).count(0), 200);
         Checks.due("50 statements", () -> Checks.parsed("a=1;".repeat(50)).count(2), 50);
+        Checks.sentence("5: UNROLL, 6: NARROW");
+        for (int n = 0; n <= 5; n++) {
+            AlarmForge chosen = new AlarmForge();
+            chosen.choose(0, n);
+            chosen.choose(1, 5 - n);
+            Checks.due("unroll", () -> chosen.count(5), n);
+            Checks.due("narrow", () -> chosen.count(6), 5 - n);
+        }
+        Checks.sentence("2: STATEMENTS parsed");
         AlarmForge forge = busy();
         Checks.due("parsed", forge::parse, 2);
         Checks.due("two statements", () -> forge.count(2), 2);

@@ -4,6 +4,7 @@ public final class GrammarEdgesTest {
         emptyRepetitions();
         optionalElse();
         whereInStands();
+        forms();
         groupsToTheLeft();
         blockDepth();
         factorDepth();
@@ -20,6 +21,7 @@ public final class GrammarEdgesTest {
         tooDeepBeforeOthers();
         firstCharacterOfNoToken();
         endIsMissing();
+        ofTheLatestParse();
         noFault();
         Checks.end();
     }
@@ -64,6 +66,31 @@ public final class GrammarEdgesTest {
         Checks.faultAtMark("if(^in<1){}");
         Checks.faultAtMark("assert(1==^in);");
         Checks.faultAtMark("^in=1;");
+    }
+
+    private static void forms() {
+        Checks.sentence("COND = EXPR ( == | != | < | <= ) EXPR");
+        for (String sign : new String[] {"==", "!=", "<", "<="}) {
+            Checks.parses("assert(1+2" + sign + "3*A[0]);", "1");
+            Checks.faultAtMark("assert(1" + sign + "2^" + sign + "3);");
+            Checks.faultAtMark("assert((1^" + sign + "2));");
+            Checks.faultAtMark("assert(1" + sign + "^);");
+            Checks.faultAtMark("assert(^" + sign + "1);");
+            Checks.faultAtMark("a=1^" + sign + "2;");
+        }
+        Checks.sentence("FACTOR = - FACTOR | NUMERAL | VARIABLE | ARRAY [ EXPR ] | ( EXPR )");
+        Checks.parses("a=-1;a=1;a=b;a=A[1];a=(1);a=-A[-(-1)];a=1--1;a=1*-1;a=-(b);", "9");
+        Checks.faultAtMark("a=-^;");
+        Checks.faultAtMark("a=^+1;");
+        Checks.faultAtMark("a=1+^+1;");
+        Checks.faultAtMark("a=1*^/1;");
+        Checks.faultAtMark("a=(^);");
+        Checks.faultAtMark("a=A[^];");
+        Checks.faultAtMark("a=A^(1);");
+        Checks.faultAtMark("a=b^[1];");
+        Checks.faultAtMark("a=(1^];");
+        Checks.faultAtMark("a=(1)^(1);");
+        Checks.faultAtMark("a=A[1]^[1];");
     }
 
     private static void groupsToTheLeft() {
@@ -359,6 +386,21 @@ public final class GrammarEdgesTest {
         Checks.faultAtMark(" ".repeat(198) + "a=^");
         Checks.faultAtMark("a=1;".repeat(49) + "b=12^");
         Checks.faultAtMark("a=1;".repeat(49) + "b=1+^");
+    }
+
+    private static void ofTheLatestParse() {
+        Checks.sentence("Where the latest parse found no PROGRAM");
+        AlarmForge forge = Checks.written("a=1;#");
+        Checks.due("a first", forge::parse, "IllegalArgument");
+        Checks.due("its fault", forge::where, 4);
+        forge.clear();
+        Checks.write(forge, "a=");
+        Checks.due("not parsed yet", forge::where, 4);
+        Checks.due("a second", forge::parse, "IllegalArgument");
+        Checks.due("its fault then", forge::where, 2);
+        Checks.write(forge, "1");
+        Checks.due("a third", forge::parse, "IllegalArgument");
+        Checks.due("its fault last", forge::where, 3);
     }
 
     private static void noFault() {

@@ -11,6 +11,7 @@ public final class RunEdgesTest {
         kindZero();
         kindFalse();
         minusInFront();
+        oneBehindTheOther();
         atFirst();
         inputsTaken();
         leftToRight();
@@ -136,6 +137,15 @@ public final class RunEdgesTest {
         Checks.warnsAsMarked("a=^3-" + MIN + ";");
         Checks.warnsAsMarked("a=-" + MAX + ";");
         Checks.leaves("a=-" + MAX + ";", "a", "-2147483647..-2147483647 0 -2147483647");
+    }
+
+    private static void oneBehindTheOther() {
+        Checks.sentence("A RUN does the STATEMENTS one behind the other, with ints");
+        Checks.runsAsMarked("a=1;b=a;a=2;assert(b==1);assert(a==2);if(a<b){c=1;}else{c=2;a=3;}assert(a+c==5);");
+        Checks.runsAsMarked("a=in;b=a/2*2;c=a-b;assert(c==1);", Checks.MOST);
+        Checks.runsAsMarked("a=in;b=in;assert(a-1==b);assert(b<a);", Checks.LEAST + 1, Checks.LEAST);
+        Checks.runsAsMarked("a=0;b=1;while(a<31){a=a+1;b=b^3*2;}");
+        Checks.runsAsMarked("a=0;b=-1;while(a<31){a=a+1;b=b*2;}b=^3-b;");
     }
 
     private static void atFirst() {
@@ -421,6 +431,19 @@ public final class RunEdgesTest {
         forge.analyse();
         Checks.due("a parse is no run", () -> forge.ran(1), 1);
         Checks.due("its value stays", () -> forge.ran(30), 0);
+        Checks.sentence("1: STATEMENTS begun, 2: INPUTS taken (that were there)");
+        AlarmForge taking = Checks.parsed("a=in;b=in;c=in;");
+        taking.input(5);
+        taking.input(0);
+        for (int limit = 0; limit <= 4; limit++) {
+            taking.run(limit);
+            Checks.due("begun of " + limit, () -> taking.ran(1), Math.min(limit, 3));
+            Checks.due("taken of " + limit, () -> taking.ran(2), Math.min(limit, 2));
+        }
+        taking.forget();
+        Checks.due("taken by that run", () -> taking.ran(2), 2);
+        taking.run(500);
+        Checks.due("none there", () -> taking.ran(2), 0);
         Checks.sentence("10 to 15: a VARIABLE (0 if UNSET), 20 to 27: CELLS of A, then of B; 30 to 35: 1 if"
             + " a VARIABLE is UNSET, else 0");
         AlarmForge full = behindRun("a=-1;b=0;c=3;A[0]=4;A[1]=5;A[3]=6;B[0]=7;B[2]=8;B[3]=9;f=10;e=d;");

@@ -18,10 +18,12 @@ public final class StateEdgesTest {
         unequal();
         below();
         atMost();
+        tightOrDead();
         otherWayRound();
         variableAlone();
         ifs();
         asserts();
+        joinedWithBefore();
         whilesThatAreOver();
         unrolled();
         patience();
@@ -263,6 +265,22 @@ public final class StateEdgesTest {
         Checks.leaves("a=5;assert(a<=a);", "a", "5..5 0 5");
     }
 
+    private static void tightOrDead() {
+        Checks.sentence("PUT TIGHT; DEAD if one is NOTHING.");
+        String fours = Checks.rests('a', 4, 4, 1);
+        Checks.leaves(fours + "assert(a<13);", "a", "-15..9 4 1");
+        Checks.leaves(fours + "assert(a<14);", "a", "-15..13 4 1");
+        Checks.leaves(fours + "assert(a!=17);", "a", "-15..13 4 1");
+        Checks.leaves(fours + "assert(-15!=a);", "a", "-11..17 4 1");
+        Checks.leaves(fours + "b=in;b=b%9;assert(a==b);", "b", "-7..5 4 1");
+        Checks.leaves(fours + "assert(13<a);", "a", "17..17 0 17");
+        Checks.leaves(fours + "assert(17<a);", "a", "dead");
+        Checks.leaves(fours + "b=-15;assert(a<b);", "b", "dead");
+        Checks.leaves("assert(2<=1);", "A0", "dead");
+        Checks.leaves("assert(A[0]!=0);", "A0", "dead");
+        Checks.leaves("assert(A[0]+1==0);", "A0", "dead");
+    }
+
     private static void otherWayRound() {
         Checks.sentence("(or, for not, as the other way round: == and != change, a < b becomes b <= a, a <="
             + " b becomes b < a)");
@@ -352,6 +370,17 @@ public final class StateEdgesTest {
         again.analyse();
         Checks.due("not by what was before", () -> again.count(3), 3);
         Checks.same("which is gone", Checks.valueOf(again, "b"), "1..1 0 1");
+    }
+
+    private static void joinedWithBefore() {
+        Checks.sentence("W is JOIN of the STATE before and what the BLOCK leaves from V with the COND TAKEN");
+        leaves(5, 0, "a=in;b=1;while(a<5){a=5;b=9;}", "b", "1..9 8 1");
+        leaves(1, 5, "a=in;b=1;while(a<5){a=5;b=9;}", "b", "1..9 8 1");
+        leaves(1, 1, "a=in;b=1;while(a<5){a=5;b=a;}", "b", "1..5 4 1");
+        leaves(1, 1, "a=in;b=1;while(a<5){b=a;a=5;}", "b", "-2147483648..4 1 0");
+        leaves(1, 1, "a=6;b=1;while(a<5){b=2;}", "b", "1..1 0 1");
+        leaves(1, 1, "a=in;b=1;while(a<5){b=1/0;}", "b", "1..1 0 1");
+        leaves(1, 1, "a=in;while(a<5){a=a+1;b=1;}", "b", "1..1 0 1");
     }
 
     private static void unrolled() {

@@ -152,6 +152,13 @@ public final class TextEdgesTest {
     }
 
     private static void words() {
+        Checks.sentence("the words if, else, while, assert, in");
+        Checks.parses("if(1<2){}else{while(2<1){assert(1<2);a=in;}}", "4");
+        Checks.parses("if (1<2){}else {while (2<1){assert (1<2);a= in ;}}", "4");
+        for (String word : new String[] {"if", "else", "while", "assert", "in"}) {
+            Checks.faultAtMark("a=1+^" + word + ";");
+            Checks.faultAtMark("a=1;^" + word.toUpperCase() + "(1<2);");
+        }
         Checks.sentence("letters that follow each other are one word");
         for (int i = 0; i < LETTERS.length(); i++) {
             Checks.faultAtMark("^a" + LETTERS.charAt(i) + "=1;");

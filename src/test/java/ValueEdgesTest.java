@@ -7,6 +7,7 @@ public final class ValueEdgesTest {
     private static final String FOURS = Checks.rests('a', 4, 4, 1);
 
     public static void main(String[] args) {
+        whatValuesAre();
         greatModulus();
         tightWithOne();
         tightEnds();
@@ -45,6 +46,20 @@ public final class ValueEdgesTest {
     /** A VALUE of b that is one or the other. */
     private static String either(int one, int other) {
         return "a=in;if(a<0){b=" + one + ";}else{b=" + other + ";}";
+    }
+
+    private static void whatValuesAre() {
+        Checks.sentence("all of these ints that leave r when divided by m (m 1 to 65536, r 0 to m - 1),"
+            + " or, with m 0, r alone");
+        a("a=0;", "0..0 0 0");
+        a("a=-7;", "-7..-7 0 -7");
+        a("a=in;", ALL);
+        a("a=in;a=a%3*2-1;", "-5..3 2 1");
+        a("a=in;a=a%3*5-4;", "-14..6 5 1");
+        a("a=in;a=a%3*5-5;", "-15..5 5 0");
+        a("a=in;a=a%3*5+4;", "-6..14 5 4");
+        a("a=in;a=a%3*65536-1;", "-131073..131071 65536 65535");
+        a("a=in;a=a%2*3-9;assert(a<-9);", "-12..-12 0 -12");
     }
 
     private static void greatModulus() {
