@@ -179,6 +179,11 @@ public final class TextEdgesTest {
             String due = c >= 'a' && c <= 'f' ? "1" : c == 'A' || c == 'B' ? "at 3" : "at 2";
             Checks.parses("a=" + c + ";", due);
         }
+        // It does not count as what was before it once more.
+        Checks.faultAtMark("a=-^g1;");
+        Checks.faultAtMark("a=(^C1));");
+        Checks.faultAtMark("a=1;a ^z=1;");
+        Checks.faultAtMark("if(1<^x2){}");
         String[] others = {"If", "IF", "i", "ifs", "els", "elsee", "ELSE", "While", "whil", "asser", "asserts",
             "I", "n", "iN", "aa", "AB", "AA", "int", "while"};
         for (String word : others) {
