@@ -1,4 +1,8 @@
+import java.io.IOException;
+import java.io.UncheckedIOException;
 import java.nio.charset.StandardCharsets;
+import java.nio.file.Files;
+import java.nio.file.Path;
 
 /** What all tests use: texts put in, answers compared, exceptions by their names. */
 final class Checks {
@@ -26,6 +30,9 @@ final class Checks {
     private static final String[] EXCEPTIONS = {"", "IllegalState", "IndexOutOfBounds", "Arithmetic",
         "Arithmetic", "UnsupportedOperation"};
 
+    // Empty where the document is not at hand; then its words are not looked up.
+    private static final String DOCUMENT = wordsOf(Path.of("../shared/DOC.md"));
+
     private static int wrong = 0;
     private static int made = 0;
     private static String sentence = "";
@@ -38,7 +45,19 @@ final class Checks {
     static void sentence(String words) {
         endSentence();
         sentence = words;
+        if (!DOCUMENT.isEmpty()) {
+            same("words of the document", DOCUMENT.contains(words), true);
+        }
         madeBefore = made;
+    }
+
+    /** A file's words with one blank between them, however it breaks its lines. */
+    private static String wordsOf(Path file) {
+        try {
+            return Files.exists(file) ? Files.readString(file).replaceAll("\\s+", " ") : "";
+        } catch (IOException e) {
+            throw new UncheckedIOException(e);
+        }
     }
 
     private static void endSentence() {

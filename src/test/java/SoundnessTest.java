@@ -1,4 +1,4 @@
-/** Promise 11: what is not warned of does not happen in runs of many small programs. */
+/** Promises 11 and 13: in runs of many small programs nothing happens that is not foreseen. */
 public final class SoundnessTest {
     private static final String[] NUMBERS = {"0", "1", "2", "3", "4", "5", "7", "8", "10", "12", "16", "99",
         "100", "65536", "46341", "999999999"};
@@ -11,6 +11,7 @@ public final class SoundnessTest {
     }
 
     public static void main(String[] args) {
+        Checks.sentence("what it does not warn of can not happen.");
         int alive = 0;
         int failing = 0;
         int whole = 0;
@@ -39,6 +40,7 @@ public final class SoundnessTest {
         }
         Checks.same("enough of all: " + alive + " " + failing + " " + whole,
             alive > 800 && failing > 2000 && whole > 2000, true);
+        valuesAreTight();
         Checks.end();
     }
 
@@ -83,6 +85,36 @@ public final class SoundnessTest {
         int m = forge.left(k, 2);
         return forge.left(k, 0) <= n && n <= forge.left(k, 1)
             && (m == 0 ? n : Math.floorMod(n, m)) == forge.left(k, 3);
+    }
+
+    private static void valuesAreTight() {
+        Checks.sentence("a VALUE is NOTHING, or lo..hi (ints, lo not above hi) with m and r: all of these ints that"
+            + " leave r when divided by m (m 1 to 65536, r 0 to m - 1), or, with m 0, r alone.");
+        for (int n = 1; n <= 3000; n++) {
+            SoundnessTest test = new SoundnessTest(n * 104729L);
+            String text = test.program();
+            AlarmForge forge = Checks.parsed(text);
+            forge.choose(0, test.below(6));
+            forge.choose(1, test.below(6));
+            forge.analyse();
+            for (int k = 0; k <= 17; k++) {
+                int place = k;
+                if ((k <= 5 || k >= 10) && !Checks.answer(() -> forge.left(place, 0)).startsWith("U")) {
+                    Checks.same("VALUE " + k + " left of " + text, isTight(forge, k), true);
+                }
+            }
+        }
+    }
+
+    private static boolean isTight(AlarmForge forge, int k) {
+        int lo = forge.left(k, 0);
+        int hi = forge.left(k, 1);
+        int m = forge.left(k, 2);
+        int r = forge.left(k, 3);
+        if (m == 0) {
+            return lo == r && hi == r;
+        }
+        return lo < hi && m >= 1 && m <= 65536 && Math.floorMod(lo, m) == r && Math.floorMod(hi, m) == r;
     }
 
     private int below(int n) {
